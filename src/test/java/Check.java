@@ -1,3 +1,4 @@
+import java.util.Arrays;
 import java.util.NoSuchElementException;
 
 /** What the tests of the project share: comparing answers, counting, and writing methods down. */
@@ -32,6 +33,12 @@ final class Check {
     static final int CALL = 23;
     static final int RETURN = 24;
     static final int OUT = 25;
+
+    /** The orders' names, at their numbers. */
+    static final String[] NAMES = {"CONSTANT", "LOAD", "STORE", "LOAD_ARRAY", "STORE_ARRAY", "ADD",
+        "SUBTRACT", "MULTIPLY", "DIVIDE", "REST", "NEW", "LENGTH", "GET", "PUT", "GO", "IF_ZERO",
+        "IF_LESS", "IF_SAME", "NOTHING", "IF_NOTHING", "DOUBLE", "DROP", "TURN", "CALL", "RETURN",
+        "OUT"};
 
     private static int looked = 0;
     private static int wrong = 0;
@@ -75,6 +82,39 @@ final class Check {
         for (int i = 0; i < pairs.length; i += 2) {
             x.add(m, pairs[i], pairs[i + 1]);
         }
+    }
+
+    /** Adds instructions, written as "LOAD 0, DOUBLE, GO 2"; a number that is left out is 0. */
+    static void write(CodeJudge x, int m, String text) {
+        for (String instruction : text.isEmpty() ? new String[0] : text.split(", ")) {
+            String[] parts = instruction.split(" ");
+            x.add(m, order(parts[0]), parts.length > 1 ? Integer.parseInt(parts[1]) : 0);
+        }
+    }
+
+    private static int order(String name) {
+        int order = Arrays.asList(NAMES).indexOf(name);
+        if (order < 0) {
+            throw new AssertionError("no order " + name);
+        }
+        return order;
+    }
+
+    /** A method 0 with the parameters told ("ia": an int, an array) and its code. */
+    static CodeJudge judging(String parameters, int returns, int locals, int limit, String text) {
+        CodeJudge x = new CodeJudge();
+        x.method(0, parameters.length(), arrays(parameters), returns, locals, limit);
+        write(x, 0, text);
+        return x;
+    }
+
+    /** The bits of the arrays among types. */
+    static int arrays(String types) {
+        int bits = 0;
+        for (int k = 0; k < types.length(); k++) {
+            bits |= types.charAt(k) == 'a' ? 1 << k : 0;
+        }
+        return bits;
     }
 
     static void end(String name) {
