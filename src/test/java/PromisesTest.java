@@ -24,6 +24,7 @@ public final class PromisesTest {
         dropLeavesNothingThere();
         goodChangesWithTheCode();
         goodChangesWithTheCalled();
+        goodIsEachMethodsOwn();
         heightFrom0To15();
         heightIsNoneOnNoWay();
         typeAtItsBounds();
@@ -130,7 +131,7 @@ public final class PromisesTest {
         Check.due("the new limit", false, x.good(5));
     }
 
-    /** Promise 2: m 0 .. 7, parameters 0 .. 4, their bits, returns 0 .. 2, locals, limit 0 .. 15. */
+    /** Promise 2: the lowest and the highest of m, parameters, arrays, returns, locals, limit. */
     private static void methodTakesItsBounds() {
         for (int m : new int[] {0, 7}) {
             for (int parameters = 0; parameters <= 4; parameters++) {
@@ -312,6 +313,39 @@ public final class PromisesTest {
         Check.due("method 7 takes two", false, x.good(0));
     }
 
+    /** Promise 6: what was asked before, and of which method, does not matter. */
+    private static void goodIsEachMethodsOwn() {
+        CodeJudge x = new CodeJudge();
+        x.method(0, 0, 0, 0, 0, 1);
+        // A way goes wrong while others are still to be followed.
+        Check.write(x, 0, "CONSTANT 0, IF_ZERO 4, CONSTANT 0, IF_ZERO 5, ADD, ADD, RETURN");
+        x.method(1, 0, 0, 0, 0, 1);
+        Check.write(x, 1, "CONSTANT 0, IF_ZERO 3, RETURN, RETURN, ADD, ADD, ADD, ADD");
+        x.method(2, 0, 0, 0, 0, 0);
+        Check.write(x, 2, "RETURN");
+        for (int wrong = 3; wrong <= 6; wrong++) {
+            x.method(wrong, 0, 0, 0, 0, 0);
+            Check.write(x, wrong, "GO " + wrong);
+            for (int place = 1; place <= 6; place++) {
+                Check.write(x, wrong, place == wrong ? "ADD" : "RETURN");
+            }
+        }
+        for (int turn = 0; turn < 3; turn++) {
+            Check.due("0 is not", false, x.good(0));
+            Check.due("1 is", true, x.good(1));
+            Check.due("no way to its end", CodeJudge.NONE, x.height(1, 4));
+            Check.due("0 is still not", false, x.good(0));
+            Check.due("2 is", true, x.good(2));
+            Check.due("two are", 2, x.count(2));
+            Check.due("0 is not, behind count", false, x.good(0));
+            Check.due("height, behind one that is not", 0, x.height(2, 0));
+            for (int wrong = 3; wrong <= 6; wrong++) {
+                x.good(0);
+                Check.due(wrong + " is not, behind 0", false, x.good(wrong));
+            }
+        }
+    }
+
     /** Promise 7: "How high the stack is ahead of an instruction". */
     private static void heightFrom0To15() {
         CodeJudge x = Check.judging("", 0, 0, 15, "CONSTANT 0");
@@ -453,36 +487,43 @@ public final class PromisesTest {
 
     /** Promise 9: "or a method that it calls on any way, or one that these call, and so on". */
     private static void startLooksAtCalledOnes() {
-        // A chain of eight: each calls the one of the number below.
         for (int last = 0; last <= 7; last++) {
-            CodeJudge x = new CodeJudge();
-            for (int m = 0; m <= 7; m++) {
-                x.method(m, 0, 0, 0, 0, 0);
-                Check.write(x, m, m == 0 ? "RETURN" : "CALL " + (m - 1) + ", RETURN");
-            }
-            for (int m = 0; m <= 7; m++) {
+            lookAtChain(last, 1);
+            lookAtChain(last, -1);
+        }
+    }
+
+    /** A chain of eight, each calling the one before it, of which one is not good. */
+    private static void lookAtChain(int wrong, int by) {
+        int first = by > 0 ? 0 : 7;
+        CodeJudge x = new CodeJudge();
+        for (int m = 0; m <= 7; m++) {
+            x.method(m, 0, 0, 0, 0, 0);
+            Check.write(x, m, m == first ? "RETURN" : "CALL " + (m - by) + ", RETURN");
+        }
+        for (int m = 0; m <= 7; m++) {
+            x.start(m, 0, 0, 0, 0);
+            Check.due("all are good", m, x.state(3));
+        }
+        // A constant above the limit of 0.
+        x.method(wrong, 0, 0, 0, 0, 0);
+        Check.write(x, wrong, "CONSTANT 0, DROP, RETURN");
+        for (int m = 0; m <= 7; m++) {
+            int each = m;
+            if ((m - wrong) * by >= 0) {
+                Check.fails(wrong + " is not good, from " + m, Check.STATE,
+                        () -> x.start(each, 0, 0, 0, 0));
+            } else {
                 x.start(m, 0, 0, 0, 0);
-                Check.due("all are good", m, x.state(3));
-            }
-            // With a constant above its limit one of them is not good.
-            x.method(last, 0, 0, 0, 0, 0);
-            Check.write(x, last, "CONSTANT 0, DROP, RETURN");
-            for (int m = 0; m <= 7; m++) {
-                int each = m;
-                if (m >= last) {
-                    Check.fails(last + " is not good, from " + m, Check.STATE,
-                            () -> x.start(each, 0, 0, 0, 0));
-                } else {
-                    x.start(m, 0, 0, 0, 0);
-                    Check.due("below " + last, m, x.state(3));
-                }
+                Check.due("ahead of " + wrong, m, x.state(3));
             }
         }
     }
 
     /** Promise 9: "on any way": also one that a run never goes, but no call where none comes. */
     private static void startLooksAtWaysOnly() {
-        CodeJudge never = Check.judging("", 0, 0, 1, "CONSTANT 1, IF_ZERO 3, RETURN, CALL 1, RETURN");
+        CodeJudge never = Check.judging("", 0, 0, 1,
+                "CONSTANT 1, IF_ZERO 3, RETURN, CALL 1, RETURN");
         never.method(1, 0, 0, 0, 0, 0);
         Check.due("good by itself", true, never.good(0));
         Check.fails("a way that no run goes", Check.STATE, () -> never.start(0, 0, 0, 0, 0));
@@ -509,6 +550,24 @@ public final class PromisesTest {
             Check.fails("second array", Check.NO_SUCH, () -> x.cell(1, -1));
             x.run(2000);
             Check.due("its outcome", turn == 2 ? 2 : 1, x.state(0));
+        }
+        startLeavesNoStack();
+    }
+
+    /** What was on the stacks of both frames of a run is not on those of the next one. */
+    private static void startLeavesNoStack() {
+        CodeJudge x = Check.judging("", 0, 0, 3, "CONSTANT 1, DOUBLE, DOUBLE, CALL 1, GO 4");
+        x.method(1, 0, 0, 0, 1, 3);
+        Check.write(x, 1, "CONSTANT 2, DOUBLE, DOUBLE, STORE 0, GO 4");
+        for (int turn = 0; turn < 3; turn++) {
+            x.start(0, 0, 0, 0, 0);
+            Check.fails("first frame", Check.NO_SUCH, () -> x.value(0, 0));
+            x.run(4);
+            Check.fails("second frame", Check.NO_SUCH, () -> x.value(0, 0));
+            Check.due("its local", 0, x.value(1, 0));
+            x.run(4);
+            Check.due("its second value", 2, x.value(0, 1));
+            Check.fails("and no third", Check.NO_SUCH, () -> x.value(0, 2));
         }
     }
 
@@ -556,7 +615,7 @@ public final class PromisesTest {
         }
     }
 
-    /** Promise 11: "2 frames (0: ended); 3 the method of the upper frame, 4 its place (NONE ...". */
+    /** Promise 11: "2 frames (0: ended); 3 the method of the upper frame, 4 its place ...". */
     private static void state2To4() {
         CodeJudge x = new CodeJudge();
         x.method(7, 0, 0, 0, 0, 0);
@@ -574,7 +633,7 @@ public final class PromisesTest {
         }
     }
 
-    /** Promise 11: "5 what the first method returned (an array's number; 0: nothing, or not ended)". */
+    /** Promise 11: "5 what the first method returned (an array's number; 0: nothing, or ...)". */
     private static void state5() {
         String[] texts = {"RETURN", "CONSTANT -7, RETURN", "CONSTANT 2, NEW, RETURN",
             "LOAD_ARRAY 0, RETURN", "NOTHING, RETURN"};
@@ -646,8 +705,8 @@ public final class PromisesTest {
     /** Promise 12: "value k of the stack (kind 0), or local k (1); an array's number." */
     private static void valueAtItsBounds() {
         CodeJudge x = Check.judging("ia", 0, 10, 15,
-                "CONSTANT 20, DOUBLE, CONSTANT 1, ADD, DOUBLE, CONSTANT 1, ADD, DOUBLE, CONSTANT 1, "
-                + "ADD, LOAD_ARRAY 1, NOTHING, CONSTANT 9, STORE 9, GO 14");
+                "CONSTANT 20, DOUBLE, CONSTANT 1, ADD, DOUBLE, CONSTANT 1, ADD, DOUBLE, "
+                + "CONSTANT 1, ADD, LOAD_ARRAY 1, NOTHING, CONSTANT 9, STORE 9, GO 14");
         x.start(0, MIN, 6, 0, 0);
         Check.fails("nothing on the stack", Check.NO_SUCH, () -> x.value(0, 0));
         x.run(14);
@@ -811,7 +870,7 @@ public final class PromisesTest {
         Check.due("none good", 0, x.count(2));
     }
 
-    /** "An object is used for at most 512 calls after it has been made": the last ones are right. */
+    /** "An object is used for at most 512 calls": the last ones are answered as the first ones. */
     private static void fiveHundredAndTwelveCalls() {
         CodeJudge x = Check.judging("", 0, 0, 1, "CONSTANT 3, OUT, GO 0");
         x.start(0, 0, 0, 0, 0);

@@ -7,6 +7,7 @@ public final class StepsTest {
     private static final int MAX = Integer.MAX_VALUE;
 
     public static void main(String[] args) {
+        eachTakesAndPutsNoMore();
         sumsWrap();
         quotientsAreTruncated();
         restHasTheSignOfTheFirst();
@@ -40,6 +41,45 @@ public final class StepsTest {
         troubleEndsARun();
         arraysAreToldByNumbers();
         Check.end("StepsTest");
+    }
+
+    /** What is below the values that an instruction takes stays: as many of them, and the same. */
+    private static void eachTakesAndPutsNoMore() {
+        // Array 0 has 3 cells; * is the place behind the instruction.
+        String[][] rows = {{"", "CONSTANT 5", "5"}, {"", "LOAD 0", "8"}, {"6", "STORE 0", ""},
+            {"", "LOAD_ARRAY 1", "0"}, {"none", "STORE_ARRAY 2", ""}, {"6 4", "ADD", "10"},
+            {"6 4", "SUBTRACT", "2"}, {"6 4", "MULTIPLY", "24"}, {"6 4", "DIVIDE", "1"},
+            {"6 4", "REST", "2"}, {"6", "NEW", "1"}, {"array", "LENGTH", "3"},
+            {"array 2", "GET", "0"}, {"array 2 9", "PUT", ""}, {"", "GO *", ""},
+            {"0", "IF_ZERO *", ""}, {"6", "IF_ZERO *", ""}, {"4 6", "IF_LESS *", ""},
+            {"6 4", "IF_LESS *", ""}, {"4 4", "IF_SAME *", ""}, {"6 4", "IF_SAME *", ""},
+            {"", "NOTHING", "-1"}, {"none", "IF_NOTHING *", ""}, {"array", "IF_NOTHING *", ""},
+            {"6", "DOUBLE", "6 6"}, {"none", "DOUBLE", "-1 -1"}, {"6", "DROP", ""},
+            {"6 4", "TURN", "4 6"}, {"none 4", "TURN", "4 -1"}, {"6", "OUT", ""}};
+        for (String[] row : rows) {
+            String pushed = "CONSTANT 70, CONSTANT 71, " + pushed(row[0]);
+            int place = pushed.split(", ").length;
+            CodeJudge x = Check.judging("ia", 0, 3, 9,
+                    pushed + row[1].replace("*", "" + (place + 1)) + ", GO " + (place + 1));
+            x.start(0, 8, 3, 0, 0);
+            x.run(place + 1);
+            Check.due(row[1] + " goes on", place + 1, x.state(4));
+            String[] due = ("70 71 " + row[2]).trim().split(" ");
+            for (int k = 0; k < due.length; k++) {
+                Check.due(row[0] + " " + row[1] + " at " + k, Integer.parseInt(due[k]),
+                        x.value(0, k));
+            }
+            Check.fails(row[1] + ", no more", Check.NO_SUCH, () -> x.value(0, due.length));
+        }
+    }
+
+    private static String pushed(String values) {
+        StringBuilder text = new StringBuilder();
+        for (String value : values.isEmpty() ? new String[0] : values.split(" ")) {
+            text.append(value.equals("none") ? "NOTHING"
+                    : value.equals("array") ? "LOAD_ARRAY 1" : "CONSTANT " + value).append(", ");
+        }
+        return text.toString();
     }
 
     /** A run of a method with two ints, two arrays, that returns an int or nothing, to its end. */
@@ -139,7 +179,7 @@ public final class StepsTest {
         Check.due("LENGTH of the largest", 2000, x.state(5));
     }
 
-    /** "12 GET: array, int to the cell's int. 13 PUT: array, int, int: the cell becomes the last." */
+    /** "12 GET: array, int to the cell's int. 13 PUT: ...: the cell becomes the last." */
     private static void getAndPutFirstAndLastCell() {
         for (int k : new int[] {0, 1, 3, 4}) {
             CodeJudge x = done(1, "LOAD_ARRAY 3, LOAD 0, LOAD 1, PUT, LOAD_ARRAY 3, LOAD 0, GET, "
@@ -281,7 +321,7 @@ public final class StepsTest {
         Check.due("the second", MAX, x.output(1));
     }
 
-    /** "a START makes the first FRAME of a method; a parameter that is an array is a new one ...". */
+    /** "a START makes the first FRAME ...; a parameter that is an array is a new one ...". */
     private static void startMakesTheFirstFrame() {
         CodeJudge x = Check.judging("aaia", 0, 4, 0, "RETURN");
         x.start(0, 0, 400, -1, 1);
@@ -470,6 +510,9 @@ public final class StepsTest {
             Check.due("as far as the 51st", 49 * 6 + 5, x.run(2000));
             Check.due("trouble", 7, x.state(0));
             Check.due("50 frames stay", 50, x.state(2));
+            Check.due("at the CALL", 5, x.state(4));
+            Check.due("which took nothing", 0, x.value(0, 0));
+            Check.due("steps", 49 * 6 + 5, x.state(1));
         }
     }
 
@@ -477,8 +520,9 @@ public final class StepsTest {
     private static void troubleOfTwoKinds() {
         ends(3, "NOTHING, CONSTANT -1, GET, DROP", 0, 0, 0, 0);
         ends(3, "NOTHING, CONSTANT 5, CONSTANT 0, PUT", 0, 0, 0, 0);
-        CodeJudge x = Check.judging("i", 0, 1, 2, "LOAD 0, CONSTANT 1, SUBTRACT, STORE 0, CONSTANT 0, NEW, "
-                + "DROP, LOAD 0, IF_ZERO 10, GO 0, CONSTANT -1, NEW, DROP, RETURN");
+        CodeJudge x = Check.judging("i", 0, 1, 2, "LOAD 0, CONSTANT 1, SUBTRACT, STORE 0, "
+                + "CONSTANT 0, NEW, DROP, LOAD 0, IF_ZERO 10, GO 0, CONSTANT -1, NEW, DROP, "
+                + "RETURN");
         x.start(0, 200, 0, 0, 0);
         x.run(2000);
         Check.due("200 arrays", 200, x.state(6));
@@ -503,6 +547,8 @@ public final class StepsTest {
             x.start(0, 8, 9, 2, 2);
             Check.due(row[1] + ": steps", stack.length, x.run(stack.length));
             Check.due(row[1] + ": not come to it yet", 0, x.state(0));
+            Check.due(row[1] + ": run 0", 0, x.run(0));
+            Check.due(row[1] + ": which does not come to it", 0, x.state(0));
             Check.due(row[1] + ": no step", 0, x.run(1));
             int[] due = {Integer.parseInt(row[0]), stack.length, 1, 0, stack.length, 0, 2, 4, 0};
             for (int what = 0; what < due.length; what++) {

@@ -6,7 +6,7 @@ public final class TermsTest {
     private static final int MIN = Integer.MIN_VALUE;
     private static final int MAX = Integer.MAX_VALUE;
 
-    /** An instruction, what it takes ("i" an int, "a" an array, the last is the uppermost), puts. */
+    /** An instruction, what it takes ("i": an int, "a": an array) and what it puts. */
     private static final String[][] INSTRUCTIONS = {
         {"CONSTANT 5", "", "i"}, {"LOAD 0", "", "i"}, {"STORE 2", "i", ""},
         {"LOAD_ARRAY 1", "", "a"}, {"STORE_ARRAY 2", "a", ""}, {"ADD", "ii", "i"},
@@ -46,6 +46,7 @@ public final class TermsTest {
         returnLeavesNothing();
         oneBehindTheLast();
         noWayNoMatter();
+        eachTurnOfALoopIsAWay();
         waysMeetWithTheSameHeight();
         waysMeetWithTheSameTypes();
         waysMayMeetWithOtherLocals();
@@ -250,7 +251,7 @@ public final class TermsTest {
         }
     }
 
-    /** "ORDERS, with what they take from the stack (the last one is the uppermost) and put there". */
+    /** "ORDERS, with what they take from the stack (the last one is the uppermost) and put". */
     private static void putIsAsTold() {
         for (String[] row : INSTRUCTIONS) {
             for (String below : new String[] {"", "i", "a", "aia", "iaiaiaiaia"}) {
@@ -444,7 +445,8 @@ public final class TermsTest {
 
     /** The limit is each method's own: that of a called one does not count, nor what it stacks. */
     private static void onlyBehindCountsTheLimit() {
-        CodeJudge x = Check.judging("", 0, 0, 4, "CONSTANT 0, DOUBLE, DOUBLE, DOUBLE, CALL 1, GO 5");
+        CodeJudge x = Check.judging("", 0, 0, 4,
+                "CONSTANT 0, DOUBLE, DOUBLE, DOUBLE, CALL 1, GO 5");
         x.method(1, 4, 0, 1, 4, 0);
         Check.due("called with limit 0", true, x.good(0));
         Check.due("behind it", 1, x.height(0, 5));
@@ -500,6 +502,28 @@ public final class TermsTest {
         }
     }
 
+    /** "on each way": also on one that goes a loop again with other locals than at first. */
+    private static void eachTurnOfALoopIsAWay() {
+        Check.due("an array behind the first turn", false,
+                isGood("i", 0, 1, 1, "LOAD 0, DROP, NOTHING, STORE_ARRAY 0, GO 0"));
+        Check.due("an int again", true, isGood("i", 0, 1, 1,
+                "LOAD 0, DROP, NOTHING, STORE_ARRAY 0, CONSTANT 0, STORE 0, GO 0"));
+        Check.due("an int behind the first turn", false,
+                isGood("a", 0, 1, 1, "LOAD_ARRAY 0, DROP, CONSTANT 0, STORE 0, GO 0"));
+        // Local 1 is spoilt in the second turn alone, far ahead of where it is loaded.
+        String loop = "LOAD_ARRAY 1, DROP, LOAD_ARRAY 2, STORE_ARRAY 1, ";
+        Check.due("arrays all along", true, isGood("iaa", 0, 3, 1, loop + "GO 0"));
+        Check.due("the third is an int by then", false,
+                isGood("iaa", 0, 3, 1, loop + "CONSTANT 0, STORE 2, GO 0"));
+        CodeJudge x = Check.judging("ia", 0, 2, 1, "GO 1, GO 2, GO 3, CONSTANT 0, STORE 1, "
+                + "NOTHING, STORE_ARRAY 0, GO 1");
+        int[][] due = {{1, 2}, {0, 0}, {0, 0}, {0, 0}, {0, 0}, {0, 1}, {0, 1}, {2, 1}};
+        for (int place = 0; place < due.length; place++) {
+            Check.due("local 0 at " + place, due[place][0], x.type(0, place, 1, 0));
+            Check.due("local 1 at " + place, due[place][1], x.type(0, place, 1, 1));
+        }
+    }
+
     /** Two ways that come to one place, with a stack each. */
     private static boolean canMeet(String one, String other) {
         int second = 3 + one.length();
@@ -508,7 +532,7 @@ public final class TermsTest {
                 + "GO " + meeting + ", " + pushed(other) + "GO " + meeting);
     }
 
-    /** "any two ways that come to a place come with stacks of the same ints and arrays": as many. */
+    /** "any two ways that come to a place come with stacks of the same ints and arrays". */
     private static void waysMeetWithTheSameHeight() {
         for (int high = 0; high <= 15; high++) {
             for (int other = 0; other <= 15; other++) {

@@ -64,11 +64,11 @@ final class View {
         }
         for (int m = 0; m <= 7; m++) {
             int each = m;
-            tell("add", () -> x.add(each, Check.DROP, 5));
             int place = 0;
             while (patched(x, m, place)) {
                 place++;
             }
+            tell("add", () -> x.add(each, Check.DROP, 5));
             tell("drop", () -> x.drop(each));
         }
     }
